@@ -96,6 +96,13 @@ public final class PromiseTests {
             due(x.of(what, 1), ranges[what][1]);
         }
         x = new CutOffFilter();
+        for (int k = 1; k <= 3; k++) {
+            due(x.set(2, k, 100), -1001);
+            due(x.set(2, k, -100), -1001);
+            due(x.set(2, k, 99), 0);
+            due(x.set(2, k, -99), 99);
+        }
+        x = new CutOffFilter();
         due(x.set(-1, 1, 1), -1001);
         due(x.set(8, 1, 1), -1001);
         due(x.set(LOW, 1, 1), -1001);
@@ -664,6 +671,12 @@ public final class PromiseTests {
         for (int what = 0; what < 5; what++) {
             due(x.cycles(0, what), clip[what]);
         }
+        // by ZERO and input -1: 0, -1, -2 go round, 1 comes to them
+        due(read(x, "o2;c1,1"), 2);
+        due(x.cycles(-1, 2), 1);
+        due(x.cycles(-1, 3), 2);
+        due(x.cycles(-1, 4), 3);
+        due(read(x, "o1;c1,-1"), 2);
         // y = - y1 by HALT: only -2 is STUCK
         due(x.set(6, 0, 4), 1);
         due(x.cycles(0, 0), 2);
@@ -709,9 +722,17 @@ public final class PromiseTests {
         due(x.set(6, 0, 4), 2);
         due(x.cycle(1, 0, 0), -2);
         due(x.cycle(1, 0, 4), -1);
+        // each WORD a cycle of its own: that of -2 has the CODE 0
+        int[] alone = {0, 1, 2, 1};
+        for (int what = 0; what < 4; what++) {
+            due(x.cycle(0, 0, what), alone[what]);
+        }
     }
 
     private static void onCycle() {
+        due(small(24, "c1,1").onCycle(0, 0, 5), 0);
+        due(small(24, "c1,1").onCycle(1, 0, 2), 2);
+        due(small(24, "c1,1").onCycle(1, 0, 7), 3);
         CutOffFilter x = by(24, "b3;c1,-1;c2,-1");
         // 1, 0 to -1, 1 to 0, -1 to 1, 0; codes by 8 and with 4: 44, 29, 35
         due(x.leads(44, 0, 1), 3);
@@ -846,6 +867,12 @@ public final class PromiseTests {
         due(x.tamed(1, 0), -1002);
         due(x.tamed(1, 1), 0);
         due(x.tamed(99, 99), -1002);
+        // what was tried last, -99 by input 1, does not stand in the way of what is asked then: all go round by WRAP
+        x = by(28, "n1;b5;c1,-99");
+        due(x.tamed(1, 0), -1002);
+        due(x.cycles(1, 4), 32);
+        due(x.cycles(1, 2), 0);
+        due(x.leads(31, 1, 0), 0);
     }
 
     private static void lost() {
@@ -1175,6 +1202,11 @@ public final class PromiseTests {
         due(x.get(0, 1), 2);
         due(x.get(0, 2), 3);
         due(x.get(0, 3), 3);
+        due(x.copy(0, 0, 0, 0, 4), 4);
+        due(x.copy(1, 0, 0, 0, 3), 3);
+        due(x.get(0, 0), 2);
+        due(x.get(0, 2), 4);
+        due(x.get(0, 3), 3);
         due(x.copy(0, 4, 1, 3, 0), 0);
         due(x.copy(0, 5, 1, 0, 0), -13);
         due(x.copy(0, 0, 1, 4, 0), -13);
@@ -1188,6 +1220,14 @@ public final class PromiseTests {
         due(x.copy(0, HIGH, 1, HIGH, HIGH), -13);
         due(x.copy(0, 1, 1, HIGH, 1), -13);
         due(x.copy(0, 0, 1, 0, LOW), -13);
+        for (int sort = 0; sort < 3; sort += 2) {
+            due(x.row(2, sort, 2), 1);
+            due(x.row(3, sort, 2), 1);
+            due(x.put(2, 1, 7), 1);
+            due(x.copy(2, 1, 3, 0, 1), 1);
+            due(x.get(3, 0), 7);
+        }
+        due(x.row(3, -1, 0), 1);
         due(x.row(2, 2, 3), 1);
         due(x.copy(0, 0, 2, 0, -1), -12);
         due(x.copy(2, 0, 0, 0, 1), -12);
