@@ -1432,7 +1432,7 @@ public final class CutOffFilter {
         }
 
         /** What the first body of an act that a kind, or one above it, has answers for the rounding own. */
-        static int answer(Bodies kept, int own, int from, int act, int x, int depth) {
+        private static int answer(Bodies kept, int own, int from, int act, int x, int depth) {
             int body = find(from, act);
             if (body == 0 || depth > DEEPEST) {
                 return 0;

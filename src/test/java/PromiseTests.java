@@ -867,12 +867,19 @@ public final class PromiseTests {
         due(x.tamed(1, 0), -1002);
         due(x.tamed(1, 1), 0);
         due(x.tamed(99, 99), -1002);
-        // what was tried last, -99 by input 1, does not stand in the way of what is asked then: all go round by WRAP
+        // what was tried last, -99 by input 2, does not stand in the way of what is asked then: all go round by WRAP
         x = by(28, "n1;b5;c1,-99");
-        due(x.tamed(1, 0), -1002);
-        due(x.cycles(1, 4), 32);
-        due(x.cycles(1, 2), 0);
-        due(x.leads(31, 1, 0), 0);
+        for (int times = 0; times < 2; times++) {
+            due(x.tamed(2, 0), -1002);
+            due(x.cycles(2, 4), 32);
+            due(x.cycles(2, 2), 0);
+            due(x.leads(31, 2, 0), 0);
+        }
+        // the least number of all: by STAY only -16 by -99, by 4 AWAY 396, less 410, is no longer OVER
+        x = by(28, "n1;b5;i41;s2;r4;o3;p1");
+        due(x.tamed(-40, 15), -99);
+        due(x.tamed(-40, 16), 99);
+        due(x.tamed(-40, 14), -1002);
     }
 
     private static void lost() {
