@@ -1345,6 +1345,13 @@ public final class EdgeTests {
         due(x.level(0, 0, 2), 40);
     }
 
+    static void p14_beyond99CountsAs99() {
+        // 112 by 16 would be whole, as 96 is
+        CutOffFilter x = by("s4");
+        fill(x, 0, 1, 112, 96);
+        due(x.levels(0), 2);
+    }
+
     static void p14_changesNothing() {
         changesNothing(x -> {
             due(x.levels(0), 3);
@@ -1433,6 +1440,14 @@ public final class EdgeTests {
         level(x, 0, 0, -3, 4, 3);
         level(x, 0, 1, -1, 4, 2);
         level(x, 0, 2, 0, 1, 2);
+    }
+
+    static void p15_beyond99CountsAs99() {
+        CutOffFilter x = by("s4");
+        fill(x, 0, 2, Long.MAX_VALUE, 96, -112, Long.MIN_VALUE);
+        level(x, 0, 0, -3, 16, 1);
+        level(x, 0, 1, 0, 1, 1);
+        level(x, 0, 2, -13, 16, 2);
     }
 
     static void p15_changesNothing() {
@@ -3354,6 +3369,16 @@ public final class EdgeTests {
         due(x.get(1, 39), -7);
         due(x.get(1, 40), VOID);
         due(x.get(0, 0), 8);
+    }
+
+    static void p38_beyond99CountsAs99() {
+        CutOffFilter x = new CutOffFilter();
+        fill(x, 0, 2, 100, Long.MIN_VALUE, 98);
+        due(x.film(1, 1, 0), 3);
+        due(x.get(1, 0), 3);
+        due(x.get(1, 1), -3);
+        due(x.get(1, 2), 2);
+        due(x.get(0, 1), Long.MIN_VALUE);
     }
 
     static void p38_itsOwnRow() {
